@@ -140,6 +140,9 @@ public final class CountingTest {
         Check.due("none is kept", 0, hall.countKept());
         Check.due("a simple line", 0, hall.countWaves());
         Check.due("of so many boxes", 7, hall.setRow(1, 1, false));
+        Check.due("one box", 0, hall.makeRow(1, 0));
+        Check.due("one box", 1, Halls.countBoxes(hall));
+        Check.due("one box with a ball", 1, typed(1).makeRow(1, 0));
     }
 
     private static void makeRowWrong() {

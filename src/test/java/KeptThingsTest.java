@@ -7,6 +7,7 @@ public final class KeptThingsTest {
     public static void main(String[] args) {
         countPairs();
         countPairsWrong();
+        rowsOneBehindTheOther();
         waves();
         wavesWrong();
         getEnergy();
@@ -21,7 +22,8 @@ public final class KeptThingsTest {
     }
 
     private static BoxballHall[] noSimpleLines() {
-        return new BoxballHall[] {Halls.ring("110"), Halls.row("111112", "110000", false), Halls.row("2", "0", true)};
+        return new BoxballHall[] {Halls.ring("110"), Halls.row("111112", "110000", false), Halls.row("2", "0", true),
+            Halls.row("211111", "110000", false)};
     }
 
     private static void arePairs(String balls, int... due) {
@@ -43,6 +45,21 @@ public final class KeptThingsTest {
         arePairs("10101", 3);
         arePairs("1".repeat(60), ones(60));
         arePairs("10".repeat(30), 30);
+    }
+
+    /** What was looked at ahead must not be seen in a later, shorter row. */
+    private static void rowsOneBehindTheOther() {
+        BoxballHall hall = new BoxballHall();
+        String[] rows = {"1".repeat(60), "000001", "00001", "0001", "11", "1", "0", "1100100000"};
+        int[] waves = {1, 1, 1, 1, 1, 1, 0, 2};
+        int[] energies = {60, 1, 1, 1, 2, 1, 0, 3};
+        for (int i = 0; i < rows.length; i++) {
+            Halls.tell(hall, "1".repeat(rows[i].length()), rows[i], false);
+            Check.due("waves of " + rows[i], waves[i], hall.countWaves());
+            Check.due("energy of " + rows[i], energies[i], hall.getEnergy(99));
+            Check.due("runs of " + rows[i], waves[i], hall.countRuns(99));
+            Check.due("pairs of the round 3 of " + rows[i], i == 0 ? 1 : 0, hall.countPairs(3));
+        }
     }
 
     private static int[] ones(int count) {

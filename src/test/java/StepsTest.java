@@ -8,6 +8,7 @@ public final class StepsTest {
         stepOnLines();
         stepOnMixedLines();
         stepOnRings();
+        stepOnRingsThatTurnCarriers();
         stepRefused();
         stepBack();
         stepBackRefused();
@@ -70,6 +71,22 @@ public final class StepsTest {
         isStep(Halls.ring("1010"), 9, 1, "0101");
         isStep(Halls.row("222222", "200100", true), 3, 2, "020010");
         isStep(Halls.row("222222", "000002", true), 9, 2, "200000");
+    }
+
+    /** Each of these boxes turns a carrier of 1 from empty to full, and back: so it matters how it begins. */
+    private static void stepOnRingsThatTurnCarriers() {
+        isStep(Halls.row("33", "11", true), 1, 1, "02");
+        isStepBack(Halls.row("33", "11", true), 1, 1, "20");
+        BoxballHall odd = Halls.row("3", "1", true);
+        Check.thrown("one turn is not enough", Check.REFUSED, () -> odd.step(1));
+        Check.thrown("one turn backward", Check.REFUSED, () -> odd.stepBack(1));
+        Check.due("nothing is kept", 0, odd.countKept());
+        BoxballHall unlike = Halls.row("22", "02", true);
+        isStep(unlike, 1, 1, "11");
+        isStepBack(unlike, 1, 1, "20");
+        isStep(Halls.row("44", "22", true), 1, 1, "13");
+        isStep(Halls.row("44", "22", true), 9, 2, "22");
+        isStep(Halls.row("44", "13", true), 9, 3, "31");
     }
 
     private static void stepRefused() {
@@ -237,7 +254,11 @@ public final class StepsTest {
         Check.due("a line", true, Halls.line("1101010000000000").commute(1, 3));
         Check.due("a line of mixed boxes", true, Halls.row("2143121111111", "2021000000000", false).commute(2, 5));
         Check.due("a ring", true, Halls.ring("1101000000").commute(1, 2));
+        Check.due("a ring that comes round", true, Halls.ring("11000").commute(9, 9));
+        Check.due("a ring that comes round", true, Halls.ring("110100").commute(9, 1));
         Check.due("the same capacity", true, Halls.ring("1101000000").commute(99, 99));
+        Check.due("a ring whose orders lead to 31 and 13", false, Halls.row("44", "22", true).commute(1, 9));
+        Check.due("the same the other way", false, Halls.row("44", "22", true).commute(9, 1));
         BoxballHall hall = Halls.ring("1101000000");
         long sum = hall.checksum();
         hall.commute(1, 2);
