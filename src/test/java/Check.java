@@ -2,6 +2,8 @@ import java.util.NoSuchElementException;
 
 /** What all tests count with: an answer that is due, or an exception that is due. */
 final class Check {
+    static final int MIN = Integer.MIN_VALUE;
+    static final int MAX = Integer.MAX_VALUE;
     static final Class<? extends RuntimeException> ARGUMENT = IllegalArgumentException.class;
     static final Class<? extends RuntimeException> INDEX = IndexOutOfBoundsException.class;
     static final Class<? extends RuntimeException> REFUSED = UnsupportedOperationException.class;
@@ -13,6 +15,19 @@ final class Check {
         Object make();
     }
 
+    interface Maker {
+        BoxballHall make();
+    }
+
+    interface On {
+        Object call(BoxballHall hall);
+    }
+
+    interface OnNumber {
+        Object call(BoxballHall hall, int number);
+    }
+
+    private static String place = "";
     private static int looked = 0;
     private static int wrong = 0;
 
@@ -35,7 +50,7 @@ final class Check {
         looked++;
         if (!want.equals(got)) {
             wrong++;
-            System.out.println(call + " answered " + got + ", due is " + want);
+            System.out.println(place + call + " answered " + got + ", due is " + want);
         }
     }
 
@@ -44,12 +59,39 @@ final class Check {
         due(call, "throws " + want.getSimpleName(), outcome(made));
     }
 
+    /** Two halls are made alike, and one is called wrongly: behind that it must be as the other one. */
+    static void refused(String call, Class<? extends RuntimeException> want, Maker maker, On wrongCall) {
+        BoxballHall wronged = maker.make();
+        thrown(call, want, () -> wrongCall.call(wronged));
+        due(call + ", and what it changed", Halls.all(maker.make()), Halls.all(wronged));
+    }
+
+    /** The last numbers that are taken on each side, and the first ones that are refused, and far ones. */
+    static void range(String call, int least, int most, Class<? extends RuntimeException> want, Maker maker, OnNumber on) {
+        for (int taken : new int[] {least, most}) {
+            BoxballHall hall = maker.make();
+            due(call + " " + taken + " is taken", false, outcome(() -> on.call(hall, taken)).startsWith("throws"));
+        }
+        for (int wrongNumber : new int[] {least - 1, most + 1, MIN, MAX}) {
+            refused(call + " " + wrongNumber, want, maker, hall -> on.call(hall, wrongNumber));
+        }
+    }
+
     static String outcome(Call made) {
         try {
             return String.valueOf(made.make());
         } catch (RuntimeException e) {
             return "throws " + e.getClass().getSimpleName();
         }
+    }
+
+    /** What is looked at from here on is told with this place ahead. */
+    static void at(String newPlace) {
+        place = newPlace;
+    }
+
+    static int countLooked() {
+        return looked;
     }
 
     static void end(String name) {

@@ -79,7 +79,6 @@ public final class CountingTest {
         int rows = 0;
         int[] sizes = new int[6];
         int choices = 0;
-        BoxballHall hall = new BoxballHall();
         for (int code = 0; code < 9 * 9 * 9 * 9 * 9; code++) {
             boolean isFalling = true;
             int left = code;
@@ -90,13 +89,7 @@ public final class CountingTest {
             }
             if (isFalling) {
                 choices++;
-                hall.wipe();
-                for (int size : sizes) {
-                    if (size > 0) {
-                        hall.type(size);
-                    }
-                }
-                rows += hall.countRows(8);
+                rows += typed(java.util.Arrays.stream(sizes).filter(size -> size > 0).toArray()).countRows(8);
             }
         }
         Check.due("choices of sizes", 1287, choices);

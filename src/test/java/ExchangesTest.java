@@ -91,12 +91,12 @@ public final class ExchangesTest {
     }
 
     private static void bothOrdersAlike() {
-        BoxballHall hall = new BoxballHall();
         int unlike = 0;
         int lost = 0;
         for (int rooms = 111; rooms <= 999; rooms++) {
             for (int balls = 0; balls <= 999; balls += 3) {
                 if (areWhole(rooms, balls)) {
+                    BoxballHall hall = new BoxballHall();
                     int turned = hall.turnRound(rooms, balls, true);
                     unlike += turned == hall.turnRound(rooms, balls, false) ? 0 : 1;
                     lost += sum(turned) == sum(balls) && turned % 10 <= rooms / 100 && turned / 100 <= rooms % 10 ? 0 : 1;

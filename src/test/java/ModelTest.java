@@ -7,8 +7,8 @@ import java.util.Map;
 
 /** Long runs of calls, made alike on the class and on the plain model: each answer, or exception, is compared. */
 public final class ModelTest {
-    private static final int RUNS = 120;
-    private static final int CALLS = 500;
+    private static final int RUNS = 240;
+    private static final int MOST_CALLS = 512;
 
     /** For each method the ranges of its numbers, least and most one after the other; what is missing is free. */
     private static final Map<String, int[]> RANGES = Map.ofEntries(
@@ -47,6 +47,7 @@ public final class ModelTest {
     private static final String[] COSTLY = {"keepsNumbers", "countRows", "countImages", "getPeriod", "makeRow"};
 
     private long seed = 20261119;
+    private int calls = 0;
     private BoxballHall hall;
     private PlainHall plain;
 
@@ -61,8 +62,9 @@ public final class ModelTest {
     private void compareRun(int run) throws Exception {
         hall = new BoxballHall();
         plain = new PlainHall();
+        calls = 0;
         List<Method> methods = faceMethods();
-        for (int call = 0; call < CALLS; call++) {
+        while (calls < MOST_CALLS) {
             if (pick(0, 24) == 0) {
                 tellRow(run);
             }
@@ -109,7 +111,12 @@ public final class ModelTest {
         return faceMethods().stream().filter(method -> method.getName().equals(name)).findFirst().orElseThrow();
     }
 
+    /** Each call is followed by a checksum, which counts as a call too. */
     private void compare(int run, Method method, Object[] given) throws Exception {
+        if (calls + 2 > MOST_CALLS) {
+            return;
+        }
+        calls += 2;
         StringBuilder call = new StringBuilder("run " + run + ": " + method.getName() + "(");
         for (Object argument : given) {
             call.append(argument).append(' ');

@@ -61,13 +61,13 @@ public final class ThrowsTest {
         if (!isRing || capacity > 1) {
             calls.add(() -> wronged.move(184));
         }
-        String due = all(told(capacity, isRing, isFilled));
+        String due = Halls.all(told(capacity, isRing, isFilled));
         int thrown = 0;
         for (Check.Call call : calls) {
             thrown += Check.outcome(call).startsWith("throws") ? 1 : 0;
         }
         Check.due("all calls throw, ring " + isRing + ", filled " + isFilled, calls.size(), thrown);
-        Check.due("nothing is changed, ring " + isRing + ", filled " + isFilled, due, all(wronged));
+        Check.due("nothing is changed, ring " + isRing + ", filled " + isFilled, due, Halls.all(wronged));
     }
 
     private static void rowCalls(List<Check.Call> calls, BoxballHall hall) {
@@ -141,25 +141,5 @@ public final class ThrowsTest {
             calls.add(() -> hall.getPlace(1, 0));
             calls.add(hall::getMeanSize);
         }
-    }
-
-    /** All that can be seen of a hall; looking at it ends in taking back what is kept. */
-    private static String all(BoxballHall hall) {
-        StringBuilder seen = new StringBuilder();
-        for (int customer = 0; customer < 8; customer++) {
-            for (int server = 0; server < 6; server++) {
-                seen.append(hall.getLeaving(customer, server)).append(' ');
-            }
-        }
-        for (int place = -40; place < 60; place++) {
-            seen.append(hall.getHeight(place, 1)).append(' ');
-        }
-        seen.append(hall.clearWaves()).append(' ').append(hall.countRows(9)).append(' ').append(hall.wipe());
-        seen.append(' ').append(hall.checksum()).append(' ').append(Check.outcome(() -> hall.getPeriod(1)));
-        while (hall.countKept() > 0) {
-            seen.append(' ').append(Halls.past(hall, 1)).append(' ').append(hall.undo());
-            seen.append(' ').append(hall.checksum());
-        }
-        return seen.append(' ').append(Halls.countBoxes(hall)).toString();
     }
 }
