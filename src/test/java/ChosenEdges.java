@@ -200,7 +200,9 @@ final class ChosenEdges {
             Check.due("two waves", "0000110000100", balls(chosen(2, 2, 1, 6), -4, 8, 0)));
         Edges.edge("`place`: -999 to 999", () -> {
             Check.range("place", -999, 999, Check.ARGUMENT, Halls::fullLine, (hall, n) -> hall.getChosen(n, 0));
-            Check.due("the first place, none", 0, chosen(9, -60).getChosen(-999, -99));
+            // Of five waves alike each one is 18 places behind the one ahead; the fourth one begins at -1005.
+            BoxballHall five = chosen(9, -60, 9, -60, 9, -60, 9, -60, 9, -60);
+            Check.due("the first places", "11100000000011111111100", balls(five, -999, -977, -99));
             Check.due("the last place, none", 0, chosen(9, 60).getChosen(999, 99));
         });
         Edges.edge("`time`: -99 to 99", () -> {

@@ -29,7 +29,7 @@ public final class FaceTest {
 
     private static List<String> signatures(String text) {
         List<String> found = new ArrayList<>();
-        Matcher matcher = Pattern.compile("public [\\w ]*\\([^)]*\\)(?:\\s+throws [\\w, ]+)?").matcher(text);
+        Matcher matcher = Pattern.compile("(?m)^    public [\\w ]*\\([^)]*\\)(?:\\s+throws [\\w, ]+)?").matcher(text);
         while (matcher.find()) {
             found.add(matcher.group().replaceAll("\\s+", " ").trim());
         }
@@ -87,7 +87,7 @@ public final class FaceTest {
             methods.addAll(List.of(one.getDeclaredMethods()));
         }
         for (Method method : methods) {
-            if (!Modifier.isPublic(method.getModifiers())) {
+            if (Modifier.isPrivate(method.getModifiers())) {
                 Check.due("the name " + method.getName(), false, open.contains(method.getName()));
             }
         }
@@ -95,18 +95,18 @@ public final class FaceTest {
 
     private static void sourceKeepsToTheLanguage() throws IOException {
         String source = Files.readString(CLASS);
-        String[] ruledOut = {"\\bpackage\\b", "\\bcatch\\b", "\\bfinally\\b", "\\bsynchronized\\b", "\\bassert\\b",
-            "->", "::", "\\bInteger\\.valueOf", "Exact\\(", "\\bFloat\\.", "\\bDouble\\.", "\\bSystem\\.(?!arraycopy)",
-            "\\bprotected\\b", "static \\{", "\\bvar\\b", "\\bObject\\b", "\\bThread\\b", "\\.equals\\("};
+        String[] ruledOut = {"\\bpackage\\b", "\\bfinally\\b", "\\bsynchronized\\b", "\\bassert\\b", "\\) ->", "\\w+ = \\w+ ->", "::",
+            "\\bInteger\\.valueOf", "Exact\\(", "\\bFloat\\.", "\\bDouble\\.", "\\bSystem\\.(?!arraycopy)", "\\bprotected\\b",
+            "static \\{", "\\bObject\\b", "\\bThread\\b", "catch \\((Runtime)?Exception\\b", "catch \\((Throwable|Error)\\b",
+            "catch \\((ArrayIndex|ArrayStore|NullPointer|NegativeArray|ClassCast)"};
         for (String words : ruledOut) {
             Check.due("ruled out: " + words, false, Pattern.compile(words).matcher(source).find());
         }
-        Set<String> imports = new TreeSet<>();
-        Matcher matcher = Pattern.compile("import ([\\w.]+);").matcher(source);
+        Set<String> library = Set.of("Arrays", "ArrayList", "List", "Iterator", "NoSuchElementException");
+        Matcher matcher = Pattern.compile("import ([\\w.*]+);").matcher(source);
         while (matcher.find()) {
-            imports.add(matcher.group(1));
+            Check.due("import of " + matcher.group(1), true, library.contains(matcher.group(1).replace("java.util.", "")));
         }
-        Check.due("imports", "[java.util.Arrays, java.util.NoSuchElementException]", imports.toString());
         Check.due("signs of ASCII alone", true, source.chars().allMatch(sign -> sign < 128));
     }
 

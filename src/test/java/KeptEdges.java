@@ -66,6 +66,13 @@ final class KeptEdges {
             Check.due("energy of a full line", 60, Halls.line(SIXTY).getEnergy(60));
             Check.due("runs of a full line", "60 at 60", runsOf(SIXTY, 1));
             Check.due("runs of a ball in the last box", "1 at 10", runsOf("0000000001", 1));
+            BoxballHall shorter = Halls.line(SIXTY);
+            Check.due("60 rounds", 1, shorter.countPairs(60));
+            Halls.tell(shorter, "111", "001", false);
+            Check.due("behind a shorter row nothing is left of a longer one", 1, shorter.countWaves());
+            Check.due("nor in its sizes", 1, shorter.getSize(0));
+            Check.due("nor in its energies", 1, shorter.getEnergy(99));
+            Check.due("nor in its runs", 1, shorter.getRun(99, 0));
         });
         Edges.edge("are removed at once, as they stand side by side by then", () -> {
             Check.due("one in the other", "1 1 0", pairsOf("1100", 3));

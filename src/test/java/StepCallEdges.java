@@ -213,6 +213,7 @@ final class StepCallEdges {
                 Check.due("the ball", 1, hall.getBalls(place));
                 Check.due("kept", place - 1, hall.countKept());
             }
+            Check.due("where it wraps round", "2 3 4 5 6 5 4 3", placesKept(undoneAndBack()));
             hall.step(1);
             hall.stepBack(1);
             Check.due("kept again", 2, hall.countKept());
@@ -240,6 +241,26 @@ final class StepCallEdges {
                 return hall;
             }, BoxballHall::undo);
         });
+    }
+
+    /** Nine steps to the box 9, three of them taken back, and five steps back from the box 6. */
+    private static BoxballHall undoneAndBack() {
+        BoxballHall hall = stepped(9);
+        for (int undone = 0; undone < 3; undone++) {
+            hall.undo();
+        }
+        for (int made = 0; made < 5; made++) {
+            hall.stepBack(1);
+        }
+        return hall;
+    }
+
+    private static String placesKept(BoxballHall hall) {
+        StringBuilder places = new StringBuilder();
+        for (int ago = 1; ago <= hall.countKept(); ago++) {
+            places.append(Halls.past(hall, ago).indexOf('1')).append(' ');
+        }
+        return places.toString().trim();
     }
 
     private static void commute() {
