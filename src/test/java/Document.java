@@ -20,7 +20,8 @@ final class Document {
             String title = part.lines().findFirst().orElse("");
             String body = part.substring(title.length()).trim();
             if (title.startsWith("What it is")) {
-                found.put("What it is", sentencesOf(body.substring(body.indexOf("An object"))));
+                // Behind the semicolon stands what is not promised.
+                found.put("What it is", sentencesOf(body.substring(body.indexOf("An object"), body.lastIndexOf(';') + 1)));
             } else if (title.startsWith("Terms")) {
                 found.put("Terms", sentencesOf(body.substring(0, body.indexOf("Examples:"))));
             } else if (title.startsWith("Promise ")) {

@@ -1,7 +1,5 @@
 /** What "Terms" says of steps and of the rows that are kept. */
 final class StepEdges {
-    private static final String TENS = "1111111111";
-
     private StepEdges() {
     }
 
@@ -45,7 +43,7 @@ final class StepEdges {
             isStep(fours, row, 99, 99, "0".repeat(24) + "1" + "4".repeat(24) + "3" + "0".repeat(10));
             isStep(fours, row, 98, 98, "0".repeat(24) + "2" + "4".repeat(24) + "2" + "0".repeat(10));
             isStep(fours, row, 1, 1, "3" + "4".repeat(24) + "1" + "0".repeat(34));
-            isStep(TENS, "1110000000", 1, 1, "0111000000");
+            isStep("1111111111", "1110000000", 1, 1, "0111000000");
         });
         Edges.edge("goes over all boxes, to the right from the first one, or to the left from the last one", () -> {
             String first = "1".repeat(30) + "0".repeat(30);
@@ -127,16 +125,16 @@ final class StepEdges {
 
     private static void rings() {
         Edges.edge("On a ring it first goes round in thought, beginning empty", () -> {
-            isRingStep(TENS.substring(5), "10100", 9, 1, "01010");
-            isRingStep(TENS.substring(5), "00000", 9, 0, "00000");
+            isRingStep("11111", "10100", 9, 1, "01010");
+            isRingStep("11111", "00000", 9, 0, "00000");
             BoxballHall hall = Halls.ring("00011");
             hall.step(9);
             Check.due("it begins empty again, not with the 2 of the round before", 2, hall.step(9));
             Check.due("behind both", "00110", Halls.balls(hall));
         });
         Edges.edge("then it goes round beginning with what it had at the end of that", () -> {
-            isRingStep(TENS.substring(5), "00011", 9, 2, "11000");
-            isRingStep(TENS.substring(5), "00011", 1, 1, "10001");
+            isRingStep("11111", "00011", 9, 2, "11000");
+            isRingStep("11111", "00011", 1, 1, "10001");
             isRingStep("11", "01", 9, 1, "10");
             isRingStep("1", "1", 1, 1, "1");
             BoxballHall back = Halls.ring("11000");
@@ -187,7 +185,7 @@ final class StepEdges {
         Edges.edge("and behind each box", () -> {
             isStep("111", "100", 9, 1, "010");
             isStep("1111", "0010", 9, 1, "0001");
-            isStep(TENS, "1011000000", 9, 2, "0100110000");
+            isStep("1111111111", "1011000000", 9, 2, "0100110000");
             isStep("44", "40", 4, 4, "04");
             isRingStep("11111", "00001", 9, 1, "10000");
         });

@@ -49,8 +49,6 @@ final class ThrowEdges {
             }
             Check.due("the call 512", true, counted.isSound());
         });
-        Edges.edge("what later calls answer is free", () ->
-            Check.due("a first call", 10, new BoxballHall().setRow(1, 1, false)));
     }
 
     private static void changesNothing() {
